@@ -1,3 +1,5 @@
+import java.util.function.Function;
+
 /** For each promise of the document: ordinary inputs, the edges that it names, and wrong inputs. */
 public final class PromisesTest {
     private static final int MIN = Integer.MIN_VALUE;
@@ -22,6 +24,7 @@ public final class PromisesTest {
         changesBehindKnownDays();
         form();
         waitForForm();
+        firstCalls();
         recordsOfDays();
         recordsOfMinutes();
         plan();
@@ -502,6 +505,48 @@ public final class PromisesTest {
         session(today, 0, 62, 200);
         CHECKS.due("today is the best day", 15, today::bestFormDay);
         CHECKS.due("with a form above 0", true, () -> today.formOn(15) > 0);
+        TrainingDiary little = diaryOn(15);
+        session(little, 0, 6, 0);
+        session(little, 1, 2, 0);
+        CHECKS.due("a form of 1", 1, () -> little.formOn(15));
+        CHECKS.due("is better than 0", 15, little::bestFormDay);
+    }
+
+    /** Each call is the first one that needs loads, so that it can't live on what an earlier one has found. */
+    private static void firstCalls() {
+        first("loadOn", 310, d -> d.loadOn(0));
+        first("meanLoad", 310.0 / 7.0, d -> d.meanLoad());
+        first("zoneShare", 1.0f, d -> d.zoneShare(4));
+        first("fitnessOn", 7380, d -> d.fitnessOn(0));
+        first("fitnessFromStart", 7380, d -> d.fitnessFromStart(0));
+        first("fatigueOn", 44285, d -> d.fatigueOn(0));
+        first("fatigueFromStart", 44285, d -> d.fatigueFromStart(0));
+        first("formOn", 7380 - 44285, d -> d.formOn(1));
+        first("bestFormDay", 0, d -> d.bestFormDay());
+        first("daysToForm", 9, d -> d.daysToForm(0));
+        first("bestDays", 310, d -> d.bestDays(1));
+        first("bestDaysByTrying", 310, d -> d.bestDaysByTrying(1));
+        first("bestDaysStart", 0, d -> d.bestDaysStart(1));
+        first("bestEffort", 200, d -> d.bestEffort(1));
+        first("bestEffortByTrying", 200, d -> d.bestEffortByTrying(1));
+        first("bestEffortSession", 0, d -> d.bestEffortSession(1));
+        first("dueEntry", 2, d -> d.dueEntry());
+        first("missedDays", 5, d -> d.missedDays());
+        first("droppedEntries", 1, d -> d.droppedEntries());
+        first("planEnd", 6, d -> d.planEnd());
+        first("isPlanOver", false, d -> d.isPlanOver());
+        first("writeWeek", 13, d -> d.writeWeek(0));
+    }
+
+    private static void first(String what, Object due, Function<TrainingDiary, Object> call) {
+        TrainingDiary d = new TrainingDiary();
+        d.startPlan();
+        d.addTarget(620);
+        d.addTarget(1);
+        d.addTarget(1);
+        session(d, 0, 62, 200);
+        d.pass(6);
+        CHECKS.due("first call " + what, due, () -> call.apply(d));
     }
 
     /** Promise 33. */
