@@ -45,6 +45,10 @@ final class Checks {
         return wrong;
     }
 
+    int checked() {
+        return checked;
+    }
+
     /** Ends the program with exit code 1 if an answer was wrong, or if nothing was checked. */
     void end(String name) {
         System.out.println(name + ": " + checked + " answers checked, " + wrong + " wrong");

@@ -33,41 +33,8 @@ public final class PromisesTest {
         planOfThePast();
         week();
         undo();
-        undoOfEach();
         snapshots();
-        failedCallsChangeNothing();
         CHECKS.end("PromisesTest");
-    }
-
-    private static TrainingDiary diaryOn(int day) {
-        TrainingDiary diary = new TrainingDiary();
-        int today = 0;
-        while (today < day) {
-            int days = Math.min(30, day - today);
-            today = diary.pass(days);
-        }
-        return diary;
-    }
-
-    private static int session(TrainingDiary diary, int day, int... minutesAndIntensities) {
-        int id = diary.addSession(day);
-        for (int i = 0; i + 1 < minutesAndIntensities.length; i += 2) {
-            diary.addPart(id, minutesAndIntensities[i], minutesAndIntensities[i + 1]);
-        }
-        return id;
-    }
-
-    private static String week(TrainingDiary diary, int day) {
-        int length = diary.writeWeek(day);
-        return line(diary, length);
-    }
-
-    private static String line(TrainingDiary diary, int length) {
-        StringBuilder line = new StringBuilder();
-        for (int i = 0; i < length; i++) {
-            line.append(diary.lineAt(i));
-        }
-        return line.toString();
     }
 
     /** Promises 1, 3, 6, 18. */
@@ -105,7 +72,7 @@ public final class PromisesTest {
         CHECKS.due("pass 1", 1, () -> d.pass(1));
         CHECKS.due("pass 30", 31, () -> d.pass(30));
         CHECKS.due("today", 31, d::today);
-        TrainingDiary late = diaryOn(198);
+        TrainingDiary late = Diaries.on(198);
         CHECKS.notPossible("pass 2 on 198", () -> late.pass(2));
         CHECKS.outOfRange("pass 31 on 198", () -> late.pass(31));
         CHECKS.due("pass 1 on 198", 199, () -> late.pass(1));
@@ -115,7 +82,7 @@ public final class PromisesTest {
 
     /** Promises 4 to 6. */
     private static void tests() {
-        TrainingDiary d = diaryOn(20);
+        TrainingDiary d = Diaries.on(20);
         CHECKS.outOfRange("test before 0", () -> d.addTest(-1, 200));
         CHECKS.outOfRange("test after today", () -> d.addTest(21, 200));
         CHECKS.outOfRange("threshold 49", () -> d.addTest(0, 49));
@@ -143,19 +110,19 @@ public final class PromisesTest {
     }
 
     private static void changedSessions() {
-        TrainingDiary d = diaryOn(20);
-        session(d, 4, 10, 200);
-        session(d, 5, 10, 200);
-        session(d, 9, 10, 200);
-        session(d, 9, 10, 0);
-        session(d, 9);
-        session(d, 10, 10, 200);
+        TrainingDiary d = Diaries.on(20);
+        Diaries.session(d, 4, 10, 200);
+        Diaries.session(d, 5, 10, 200);
+        Diaries.session(d, 9, 10, 200);
+        Diaries.session(d, 9, 10, 0);
+        Diaries.session(d, 9);
+        Diaries.session(d, 10, 10, 200);
         CHECKS.due("all that lie on it or after it", 3, () -> d.addTest(5, 400));
         CHECKS.due("only up to the next test, as 400 stays in force", 0, () -> d.addTest(8, 400));
         CHECKS.due("behind the last test", 1, () -> d.addTest(10, 200));
         CHECKS.due("between tests", 1, () -> d.addTest(9, 50));
-        TrainingDiary same = diaryOn(3);
-        session(same, 1, 10, 200);
+        TrainingDiary same = Diaries.on(3);
+        Diaries.session(same, 1, 10, 200);
         same.setWeight(1, 5);
         CHECKS.due("another zone of the same weight", 0, () -> same.addTest(1, 400));
         CHECKS.due("still another zone", 10, () -> same.minutesInZone(0, 1));
@@ -163,7 +130,7 @@ public final class PromisesTest {
 
     /** Promise 7. */
     private static void thresholds() {
-        TrainingDiary d = diaryOn(20);
+        TrainingDiary d = Diaries.on(20);
         d.addTest(10, 300);
         d.addTest(5, 250);
         CHECKS.due("before the first test", 200, () -> d.thresholdOn(4));
@@ -205,7 +172,7 @@ public final class PromisesTest {
         CHECKS.due("highest", 110, () -> d.setBound(5, 300));
         CHECKS.due("boundOf 2", 1, () -> d.boundOf(2));
         CHECKS.due("boundOf 5", 300, () -> d.boundOf(5));
-        session(d, 0, 10, 198);
+        Diaries.session(d, 0, 10, 198);
         CHECKS.due("zone by the new bound", 3, () -> d.zoneOf(0, 198));
         CHECKS.due("load by the new bound", 30, () -> d.loadOf(0));
         d.setBound(3, 98);
@@ -227,7 +194,7 @@ public final class PromisesTest {
         }
         CHECKS.outOfRange("weight -1", () -> d.setWeight(1, -1));
         CHECKS.outOfRange("weight 101", () -> d.setWeight(1, 101));
-        session(d, 0, 10, 100, 20, 220);
+        Diaries.session(d, 0, 10, 100, 20, 220);
         CHECKS.due("load", 10 + 160, () -> d.loadOf(0));
         CHECKS.due("weight 100", 1, () -> d.setWeight(1, 100));
         CHECKS.due("weight 0", 8, () -> d.setWeight(5, 0));
@@ -239,7 +206,7 @@ public final class PromisesTest {
 
     /** Promise 12. */
     private static void zones() {
-        TrainingDiary d = diaryOn(10);
+        TrainingDiary d = Diaries.on(10);
         int[][] intensityAndZone = {{0, 1}, {159, 1}, {160, 2}, {179, 2}, {180, 3}, {199, 3}, {200, 4}, {219, 4}, {220, 5}, {500, 5}};
         for (int[] row : intensityAndZone) {
             CHECKS.due("zone of " + row[0], row[1], () -> d.zoneOf(0, row[0]));
@@ -257,7 +224,7 @@ public final class PromisesTest {
 
     /** Promises 13 and 18. */
     private static void sessions() {
-        TrainingDiary d = diaryOn(3);
+        TrainingDiary d = Diaries.on(3);
         CHECKS.outOfRange("session before 0", () -> d.addSession(-1));
         CHECKS.outOfRange("session after today", () -> d.addSession(4));
         for (int i = 0; i < 40; i++) {
@@ -307,9 +274,9 @@ public final class PromisesTest {
 
     /** Promises 16, 17, 20. */
     private static void sessionChanges() {
-        TrainingDiary d = diaryOn(10);
-        session(d, 2, 10, 200);
-        session(d, 5, 10, 100);
+        TrainingDiary d = Diaries.on(10);
+        Diaries.session(d, 2, 10, 200);
+        Diaries.session(d, 5, 10, 100);
         CHECKS.notThere("move none", () -> d.moveSession(2, 11));
         CHECKS.outOfRange("move after today", () -> d.moveSession(0, 11));
         CHECKS.outOfRange("move before 0", () -> d.moveSession(0, -1));
@@ -334,7 +301,7 @@ public final class PromisesTest {
 
     /** Promise 19. */
     private static void orderOfSessions() {
-        TrainingDiary d = diaryOn(10);
+        TrainingDiary d = Diaries.on(10);
         for (int day : new int[] {5, 3, 5, 10, 3}) {
             d.addSession(day);
         }
@@ -362,10 +329,10 @@ public final class PromisesTest {
 
     /** Promises 22 to 24. */
     private static void minutesAndLoads() {
-        TrainingDiary d = diaryOn(4);
-        session(d, 3, 10, 100, 20, 170, 30, 190, 40, 210, 50, 230, 5, 0, 1, 220);
-        session(d, 3, 7, 200);
-        session(d, 4);
+        TrainingDiary d = Diaries.on(4);
+        Diaries.session(d, 3, 10, 100, 20, 170, 30, 190, 40, 210, 50, 230, 5, 0, 1, 220);
+        Diaries.session(d, 3, 7, 200);
+        Diaries.session(d, 4);
         int[] minutes = {15, 20, 30, 40, 51};
         for (int i = 0; i < 5; i++) {
             int zone = i + 1;
@@ -386,7 +353,7 @@ public final class PromisesTest {
         TrainingDiary most = new TrainingDiary();
         most.setWeight(5, 100);
         for (int i = 0; i < 40; i++) {
-            session(most, 0, 120, 500, 120, 500);
+            Diaries.session(most, 0, 120, 500, 120, 500);
         }
         CHECKS.due("greatest load", 960000, () -> most.loadOn(0));
         CHECKS.due("greatest fitness", 960000000 / 42, () -> most.fitnessOn(0));
@@ -396,14 +363,14 @@ public final class PromisesTest {
 
     /** Promises 25 and 26. */
     private static void shares() {
-        TrainingDiary d = diaryOn(2);
+        TrainingDiary d = Diaries.on(2);
         CHECKS.outOfRange("zone 0 without minutes", () -> d.zoneShare(0));
         CHECKS.outOfRange("zone 6", () -> d.zoneShare(6));
         CHECKS.due("no minutes", "throws.ArithmeticException", () -> d.zoneShare(1));
         d.addSession(0);
         CHECKS.due("a session without parts", "throws.ArithmeticException", () -> d.zoneShare(1));
         d.addPart(0, 10, 100);
-        session(d, 2, 20, 200);
+        Diaries.session(d, 2, 20, 200);
         CHECKS.due("zone 1", 10.0f / 30.0f, () -> d.zoneShare(1));
         CHECKS.due("zone 4", 20.0f / 30.0f, () -> d.zoneShare(4));
         CHECKS.due("zone 5", 0.0f, () -> d.zoneShare(5));
@@ -416,8 +383,8 @@ public final class PromisesTest {
 
     /** Promises 27 to 30. */
     private static void fitnessAndFatigue() {
-        TrainingDiary d = diaryOn(5);
-        session(d, 1, 62, 200);
+        TrainingDiary d = Diaries.on(5);
+        Diaries.session(d, 1, 62, 200);
         // The load of the day 1 is 310; the rest decays toward 0 by whole numbers.
         int[] fitness = {0, 7380, 7205, 7034, 6867, 6704};
         int[] fatigue = {0, 44285, 37959, 32537, 27889, 23905};
@@ -435,17 +402,17 @@ public final class PromisesTest {
             CHECKS.outOfRange("fatigueFromStart " + day, () -> d.fatigueFromStart(day));
             CHECKS.outOfRange("formOn " + day, () -> d.formOn(day));
         }
-        TrainingDiary end = diaryOn(199);
-        session(end, 199, 42, 100);
+        TrainingDiary end = Diaries.on(199);
+        Diaries.session(end, 199, 42, 100);
         CHECKS.due("fitness of the last day", 1000, () -> end.fitnessOn(199));
         CHECKS.due("fatigue of the last day", 6000, () -> end.fatigueOn(199));
     }
 
     /** Promises 27 and 29: what was known is found anew behind every change. */
     private static void changesBehindKnownDays() {
-        TrainingDiary d = diaryOn(60);
-        session(d, 30, 60, 200);
-        session(d, 40, 60, 150);
+        TrainingDiary d = Diaries.on(60);
+        Diaries.session(d, 30, 60, 200);
+        Diaries.session(d, 40, 60, 150);
         same(d, "at first");
         d.addPart(0, 10, 300);
         same(d, "addPart");
@@ -487,8 +454,8 @@ public final class PromisesTest {
 
     /** Promises 31 and 32. */
     private static void form() {
-        TrainingDiary d = diaryOn(3);
-        session(d, 1, 62, 200);
+        TrainingDiary d = Diaries.on(3);
+        Diaries.session(d, 1, 62, 200);
         CHECKS.due("form on the day 0", 0, () -> d.formOn(0));
         CHECKS.due("form on the day of the session", 0, () -> d.formOn(1));
         CHECKS.due("form on the day after", 7380 - 44285, () -> d.formOn(2));
@@ -501,13 +468,13 @@ public final class PromisesTest {
         }
         CHECKS.due("a later best day", best, d::bestFormDay);
         CHECKS.due("it is not the day 0", true, () -> d.bestFormDay() > 1);
-        TrainingDiary today = diaryOn(15);
-        session(today, 0, 62, 200);
+        TrainingDiary today = Diaries.on(15);
+        Diaries.session(today, 0, 62, 200);
         CHECKS.due("today is the best day", 15, today::bestFormDay);
         CHECKS.due("with a form above 0", true, () -> today.formOn(15) > 0);
-        TrainingDiary little = diaryOn(15);
-        session(little, 0, 6, 0);
-        session(little, 1, 2, 0);
+        TrainingDiary little = Diaries.on(15);
+        Diaries.session(little, 0, 6, 0);
+        Diaries.session(little, 1, 2, 0);
         CHECKS.due("a form of 1", 1, () -> little.formOn(15));
         CHECKS.due("is better than 0", 15, little::bestFormDay);
     }
@@ -544,7 +511,7 @@ public final class PromisesTest {
         d.addTarget(620);
         d.addTarget(1);
         d.addTarget(1);
-        session(d, 0, 62, 200);
+        Diaries.session(d, 0, 62, 200);
         d.pass(6);
         CHECKS.due("first call " + what, due, () -> call.apply(d));
     }
@@ -558,7 +525,7 @@ public final class PromisesTest {
         CHECKS.outOfRange("form above", () -> d.daysToForm(100001));
         CHECKS.notThere("highest form", () -> d.daysToForm(100000));
         CHECKS.notThere("without load", () -> d.daysToForm(1));
-        session(d, 0, 30, 220, 20, 240);
+        Diaries.session(d, 0, 30, 220, 20, 240);
         CHECKS.due("form of today is before the session", 0, () -> d.daysToForm(0));
         d.pass(1);
         int load = d.loadOn(0);
@@ -574,7 +541,7 @@ public final class PromisesTest {
         CHECKS.due("days until the form is 0", days, () -> d.daysToForm(0));
         CHECKS.due("form of today", 0, () -> d.daysToForm(9523 - 57142));
         CHECKS.due("a little more", 1, () -> d.daysToForm(9523 - 57142 + 1));
-        session(d, 1, 60, 220);
+        Diaries.session(d, 1, 60, 220);
         CHECKS.due("the session of today counts tomorrow", true, () -> d.daysToForm(0) > 14);
         waitForGreatestForm();
     }
@@ -583,7 +550,7 @@ public final class PromisesTest {
     private static void waitForGreatestForm() {
         TrainingDiary d = new TrainingDiary();
         d.setWeight(5, 20);
-        session(d, 0, 100, 220, 100, 220);
+        Diaries.session(d, 0, 100, 220, 100, 220);
         int fitness = 4000000 / 42;
         int fatigue = 4000000 / 7;
         int greatest = fitness - fatigue;
@@ -607,10 +574,10 @@ public final class PromisesTest {
 
     /** Promises 34 to 36. */
     private static void recordsOfDays() {
-        TrainingDiary d = diaryOn(9);
-        session(d, 9, 60, 200);
-        session(d, 2, 60, 200);
-        session(d, 5, 10, 200);
+        TrainingDiary d = Diaries.on(9);
+        Diaries.session(d, 9, 60, 200);
+        Diaries.session(d, 2, 60, 200);
+        Diaries.session(d, 5, 10, 200);
         record(d, 8, 650, 2);
         record(d, 7, 350, 0);
         record(d, 1, 300, 2);
@@ -625,12 +592,12 @@ public final class PromisesTest {
             CHECKS.outOfRange("bestDaysByTrying " + length, () -> d.bestDaysByTrying(length));
             CHECKS.outOfRange("bestDaysStart " + length, () -> d.bestDaysStart(length));
         }
-        TrainingDiary end = diaryOn(199);
+        TrainingDiary end = Diaries.on(199);
         record(end, 60, 0, 0);
-        session(end, 199, 1, 200);
+        Diaries.session(end, 199, 1, 200);
         record(end, 60, 5, 140);
         record(end, 1, 5, 199);
-        TrainingDiary first = diaryOn(58);
+        TrainingDiary first = Diaries.on(58);
         noRecord(first, 60);
         first.pass(1);
         record(first, 60, 0, 0);
@@ -650,14 +617,14 @@ public final class PromisesTest {
 
     /** Promises 37 to 39. */
     private static void recordsOfMinutes() {
-        TrainingDiary d = diaryOn(5);
+        TrainingDiary d = Diaries.on(5);
         noEffort(d, 1);
         d.addSession(5);
         noEffort(d, 1);
         d.addPart(0, 10, 0);
         effort(d, 10, 0, 0);
         noEffort(d, 11);
-        session(d, 4, 5, 100, 5, 300, 5, 200);
+        Diaries.session(d, 4, 5, 100, 5, 300, 5, 200);
         effort(d, 1, 300, 1);
         effort(d, 5, 1500, 1);
         effort(d, 7, 1900, 1);
@@ -665,14 +632,14 @@ public final class PromisesTest {
         effort(d, 11, 2600, 1);
         effort(d, 15, 3000, 1);
         noEffort(d, 16);
-        session(d, 4, 5, 300);
+        Diaries.session(d, 4, 5, 300);
         effort(d, 5, 1500, 1);
-        session(d, 2, 5, 300);
+        Diaries.session(d, 2, 5, 300);
         effort(d, 5, 1500, 3);
         effort(d, 6, 1700, 1);
         d.moveSession(3, 5);
         effort(d, 5, 1500, 1);
-        session(d, 0, 120, 500, 120, 1);
+        Diaries.session(d, 0, 120, 500, 120, 1);
         effort(d, 240, 60120, 4);
         effort(d, 121, 60001, 4);
         for (int minutes : new int[] {0, -1, 241, MIN, MAX}) {
@@ -696,7 +663,7 @@ public final class PromisesTest {
 
     /** Promises 40 to 47. */
     private static void plan() {
-        TrainingDiary d = diaryOn(2);
+        TrainingDiary d = Diaries.on(2);
         CHECKS.due("startPlan", 0, d::startPlan);
         CHECKS.due("a plan without entries is over", true, d::isPlanOver);
         CHECKS.notThere("nothing is due", d::dueEntry);
@@ -705,11 +672,11 @@ public final class PromisesTest {
         d.addTarget(101);
         d.addTarget(80);
         planIs(d, 0, 0, 0, 4);
-        session(d, 2, 10, 200);
+        Diaries.session(d, 2, 10, 200);
         planIs(d, 0, 0, 0, 4);
         d.pass(1);
         planIs(d, 1, 0, 0, 4);
-        session(d, 3, 10, 200);
+        Diaries.session(d, 3, 10, 200);
         d.pass(1);
         planIs(d, 1, 1, 0, 5);
         d.pass(1);
@@ -718,7 +685,7 @@ public final class PromisesTest {
         planIs(d, 2, 3, 1, 6);
         d.pass(2);
         planIs(d, 2, 5, 1, 8);
-        session(d, 8, 8, 200);
+        Diaries.session(d, 8, 8, 200);
         planIs(d, 2, 5, 1, 8);
         d.pass(1);
         planOver(d, 5, 1);
@@ -784,7 +751,7 @@ public final class PromisesTest {
 
     /** Promise 46. */
     private static void planEnds() {
-        TrainingDiary d = diaryOn(199);
+        TrainingDiary d = Diaries.on(199);
         d.startPlan();
         for (int i = 0; i < 28; i++) {
             d.addTarget(i);
@@ -809,11 +776,11 @@ public final class PromisesTest {
         d.addTarget(10);
         d.pass(5);
         planIs(d, 1, 5, 1, 6);
-        session(d, 2, 1, 200);
+        Diaries.session(d, 2, 1, 200);
         planIs(d, 1, 4, 0, 6);
-        session(d, 3, 1, 199);
+        Diaries.session(d, 3, 1, 199);
         planIs(d, 1, 4, 0, 6);
-        session(d, 3, 1, 170);
+        Diaries.session(d, 3, 1, 170);
         planIs(d, 2, 3, 0, 5);
         d.addTest(3, 400);
         planIs(d, 1, 4, 0, 6);
@@ -829,35 +796,35 @@ public final class PromisesTest {
 
     /** Promises 48 and 49. */
     private static void week() {
-        TrainingDiary d = diaryOn(9);
-        session(d, 0, 10, 170);
-        session(d, 2, 10, 190, 10, 100, 10, 150);
-        session(d, 2, 11, 190);
+        TrainingDiary d = Diaries.on(9);
+        Diaries.session(d, 0, 10, 170);
+        Diaries.session(d, 2, 10, 190, 10, 100, 10, 150);
+        Diaries.session(d, 2, 11, 190);
         d.addSession(3);
-        session(d, 5, 10, 230, 10, 210);
-        session(d, 6, 10, 230, 1, 210);
+        Diaries.session(d, 5, 10, 230, 10, 210);
+        Diaries.session(d, 6, 10, 230, 1, 210);
         d.addSession(6);
         CHECKS.due("length", 13, () -> d.writeWeek(0));
-        CHECKS.due("week from 0", "2 . 3 0 . 4 5", () -> line(d, 13));
+        CHECKS.due("week from 0", "2 . 3 0 . 4 5", () -> Diaries.line(d, 13));
         CHECKS.noSuchIndex("lineAt -1", () -> d.lineAt(-1));
         CHECKS.noSuchIndex("lineAt 13", () -> d.lineAt(13));
         CHECKS.outOfRange("week before 0", () -> d.writeWeek(-1));
         CHECKS.outOfRange("week after today", () -> d.writeWeek(10));
-        CHECKS.due("the line stays", "2 . 3 0 . 4 5", () -> line(d, 13));
-        CHECKS.due("week from 5", "4 5 . . . - -", () -> week(d, 5));
-        CHECKS.due("week from today", ". - - - - - -", () -> week(d, 9));
-        TrainingDiary end = diaryOn(199);
-        session(end, 199, 1, 100);
-        CHECKS.due("week of the last day", "1 - - - - - -", () -> week(end, 199));
+        CHECKS.due("the line stays", "2 . 3 0 . 4 5", () -> Diaries.line(d, 13));
+        CHECKS.due("week from 5", "4 5 . . . - -", () -> Diaries.week(d, 5));
+        CHECKS.due("week from today", ". - - - - - -", () -> Diaries.week(d, 9));
+        TrainingDiary end = Diaries.on(199);
+        Diaries.session(end, 199, 1, 100);
+        CHECKS.due("week of the last day", "1 - - - - - -", () -> Diaries.week(end, 199));
         end.undo();
         end.undo();
-        CHECKS.due("the line is not undone", "1 - - - - - -", () -> line(end, 13));
-        CHECKS.due("it changes when it is written", ". - - - - - -", () -> week(end, 199));
+        CHECKS.due("the line is not undone", "1 - - - - - -", () -> Diaries.line(end, 13));
+        CHECKS.due("it changes when it is written", ". - - - - - -", () -> Diaries.week(end, 199));
         end.save();
         end.addSession(199);
-        week(end, 199);
+        Diaries.week(end, 199);
         end.restore();
-        CHECKS.due("the line is not restored", "0 - - - - - -", () -> line(end, 13));
+        CHECKS.due("the line is not restored", "0 - - - - - -", () -> Diaries.line(end, 13));
     }
 
     /** Promise 50. */
@@ -890,70 +857,11 @@ public final class PromisesTest {
         CHECKS.due("one that changes nothing counts", 1, d::undo);
     }
 
-    private static void undoOfEach() {
-        TrainingDiary d = diaryOn(5);
-        session(d, 1, 10, 200);
-        d.addTest(0, 210);
-        CHECKS.due("fitness known", true, () -> d.fitnessOn(5) > 0);
-        undone(d, "pass", () -> d.pass(3));
-        undone(d, "addTest", () -> d.addTest(1, 100));
-        undone(d, "removeTest", () -> d.removeTest(0));
-        undone(d, "setBound", () -> d.setBound(3, 96));
-        undone(d, "setWeight", () -> d.setWeight(3, 96));
-        undone(d, "addSession", () -> d.addSession(0));
-        undone(d, "addPart", () -> d.addPart(0, 5, 500));
-        undone(d, "clearParts", () -> d.clearParts(0));
-        undone(d, "moveSession", () -> d.moveSession(0, 5));
-        undone(d, "removeSession", () -> d.removeSession(0));
-        undone(d, "startPlan", d::startPlan);
-        d.startPlan();
-        d.addTarget(5);
-        undone(d, "addTarget", () -> d.addTarget(9));
-        undone(d, "startPlan", d::startPlan);
-        d.addSession(5);
-        d.undo();
-        CHECKS.due("the next id is undone, too", 1, () -> d.addSession(5));
-    }
-
-    private static void undone(TrainingDiary d, String what, Checks.Call modification) {
-        String before = picture(d);
-        CHECKS.due(what + " succeeds", false, () -> Checks.told(modification).startsWith("throws."));
-        d.undo();
-        CHECKS.due("undo of " + what, before, () -> picture(d));
-    }
-
-    private static String picture(TrainingDiary d) {
-        StringBuilder all = new StringBuilder();
-        int today = d.today();
-        all.append(today).append(' ').append(d.testCount()).append(' ').append(d.sessionCount()).append(' ');
-        for (int i = 0; i < d.sessionCount(); i++) {
-            int id = d.sessionAt(i);
-            all.append(id).append(':').append(d.dayOf(id)).append(':').append(d.loadOf(id)).append(':').append(d.minutesOf(id)).append(' ');
-        }
-        for (int zone = 1; zone <= 5; zone++) {
-            int z = zone;
-            all.append(d.weightOf(zone)).append(' ').append(Checks.told(() -> d.boundOf(z))).append(' ');
-        }
-        for (int day = 0; day <= today; day++) {
-            all.append(d.thresholdOn(day)).append(':').append(d.fitnessOn(day)).append(' ');
-        }
-        for (int i = 0; i < 3; i++) {
-            int entry = i;
-            all.append(Checks.told(() -> d.targetAt(entry))).append(' ');
-        }
-        all.append(d.isPlanOver()).append(' ').append(Checks.told(d::dueEntry)).append(' ').append(Checks.told(d::planEnd));
-        return all.toString();
-    }
-
     /** Promises 51 and 52. */
     private static void snapshots() {
-        TrainingDiary d = diaryOn(5);
-        CHECKS.notPossible("no snapshot", d::restore);
-        session(d, 1, 10, 200);
-        session(d, 2, 10, 200);
-        CHECKS.due("save", 2, d::save);
-        String saved = picture(d);
-        CHECKS.due("save keeps what can be undone", 4, d::undo);
+        CHECKS.notPossible("no snapshot", () -> Diaries.on(5).restore());
+        String due = Diaries.picture(restored());
+        TrainingDiary d = restored();
         d.addPart(1, 10, 200);
         d.addTest(3, 100);
         d.setBound(2, 70);
@@ -964,38 +872,32 @@ public final class PromisesTest {
         d.addSession(3);
         d.pass(9);
         CHECKS.due("restore", 2, d::restore);
-        CHECKS.due("all is as it was", saved, () -> picture(d));
         CHECKS.notPossible("nothing can be undone", d::undo);
         CHECKS.due("the next id is as it was", 2, () -> d.addSession(0));
         CHECKS.due("one can be undone", 0, d::undo);
         d.addSession(0);
         CHECKS.due("the snapshot is kept", 2, d::restore);
-        CHECKS.due("all is as it was again", saved, () -> picture(d));
+        CHECKS.due("all is as it was", due, () -> Diaries.picture(d));
+        laterSnapshot();
+    }
+
+    private static TrainingDiary restored() {
+        TrainingDiary d = Diaries.on(5);
+        Diaries.session(d, 1, 10, 200);
+        Diaries.session(d, 2, 10, 200);
+        CHECKS.due("save", 2, d::save);
+        CHECKS.due("save keeps what can be undone", 4, d::undo);
+        CHECKS.due("restore what was undone", 2, d::restore);
+        return d;
+    }
+
+    private static void laterSnapshot() {
+        TrainingDiary d = restored();
         d.removeSession(0);
         d.removeSession(1);
         CHECKS.due("a later snapshot", 0, d::save);
         d.undo();
         CHECKS.due("undo does not touch it", 0, d::restore);
         CHECKS.due("no sessions", 0, d::sessionCount);
-    }
-
-    private static void failedCallsChangeNothing() {
-        TrainingDiary d = diaryOn(5);
-        session(d, 1, 10, 200);
-        d.addTest(0, 210);
-        String before = picture(d);
-        Checks.Call[] failing = {
-            () -> d.pass(31), () -> d.addTest(0, 300), () -> d.addTest(6, 300), () -> d.addTest(1, 1), () -> d.removeTest(1),
-            () -> d.setBound(2, 90), () -> d.setBound(1, 50), () -> d.setWeight(6, 1), () -> d.setWeight(1, 101),
-            () -> d.addSession(6), () -> d.addPart(0, 121, 0), () -> d.addPart(1, 1, 0), () -> d.clearParts(1),
-            () -> d.moveSession(0, 6), () -> d.moveSession(1, 0), () -> d.removeSession(1), () -> d.addTarget(1), d::restore,
-        };
-        for (int i = 0; i < failing.length; i++) {
-            Checks.Call call = failing[i];
-            CHECKS.due("failing call " + i, true, () -> Checks.told(call).startsWith("throws."));
-            CHECKS.due("after failing call " + i, before, () -> picture(d));
-        }
-        CHECKS.due("the last modification is still the test", 3, d::undo);
-        CHECKS.due("the test is undone", 0, d::testCount);
     }
 }
