@@ -142,12 +142,15 @@ final class DayEdges extends Edges {
         sentence("- `day`: the day of the test", () -> {
             due("the day 0", 300, () -> withTest(0, 300).removeTest(0));
             due("the last day", 50, () -> withTest(199, 50).removeTest(199));
-            TrainingDiary d = Diaries.full();
-            for (int i = 9; i >= 0; i--) {
-                int day = 20 * i;
-                due("one of 10", 50 + 35 * i, () -> d.removeTest(day));
+            TrainingDiary backward = Diaries.full();
+            TrainingDiary forward = Diaries.full();
+            for (int i = 0; i < 10; i++) {
+                int first = i;
+                int last = 9 - i;
+                due("from the first", 50 + 35 * first, () -> forward.removeTest(20 * first));
+                due("from the last", 50 + 35 * last, () -> backward.removeTest(20 * last));
             }
-            due("none are left", 0, d::testCount);
+            due("none are left", 0, () -> forward.testCount() + backward.testCount());
         });
         sentence("Throws `NoSuchElementException` if there is no test on this day", () -> {
             due("no tests at all", THERE, () -> new TrainingDiary().removeTest(0));

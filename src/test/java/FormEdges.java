@@ -101,13 +101,17 @@ final class FormEdges extends Edges {
             afterChange(day, known, fromStart, d -> d.moveSession(day, 15));
             afterChange(day, known, fromStart, d -> d.moveSession(15, day));
             afterChange(day, known, fromStart, d -> d.addTest(day, 400));
-            afterChange(day, known, fromStart, d -> d.addTest(day, 50) + d.removeTest(day));
+            afterChange(day, known, fromStart, d -> d.addTest(day, 50) + knownOnce(d) + d.removeTest(day));
             afterChange(day, known, fromStart, d -> d.setWeight(1, 50));
             afterChange(day, known, fromStart, d -> d.setBound(5, 101));
-            afterChange(day, known, fromStart, d -> d.clearParts(day) + d.undo());
-            afterChange(day, known, fromStart, d -> d.save() + d.removeSession(day) + d.restore());
+            afterChange(day, known, fromStart, d -> d.clearParts(day) + knownOnce(d) + d.undo());
+            afterChange(day, known, fromStart, d -> d.save() + d.removeSession(day) + knownOnce(d) + d.restore());
             afterChange(day, known, fromStart, d -> d.pass(30) + d.moveSession(day, 45));
         }
+    }
+
+    private static int knownOnce(TrainingDiary d) {
+        return d.fitnessOn(30) + d.fatigueOn(30);
     }
 
     private void afterChange(int day, AskedWith known, AskedWith fromStart, Asked change) {
@@ -170,6 +174,11 @@ final class FormEdges extends Edges {
             Diaries.session(negative, 0, 1, 0);
             negative.pass(3);
             due("all others are negative", 0, negative::bestFormDay);
+            TrainingDiary little = Diaries.on(15);
+            Diaries.session(little, 0, 6, 0);
+            Diaries.session(little, 1, 2, 0);
+            due("only just above 0", 1, () -> little.formOn(15));
+            due("which is greater than that of the day 0", 15, little::bestFormDay);
         });
     }
 

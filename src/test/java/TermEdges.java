@@ -487,8 +487,11 @@ final class TermEdges extends Edges {
             oneModification(Diaries::rich, d -> d.removeTest(9));
             oneModification(Diaries::rich, d -> d.setBound(3, 99));
             oneModification(Diaries::rich, d -> d.setBound(3, 95));
+            oneModification(Diaries::rich, d -> d.setBound(2, 1));
+            oneModification(Diaries::rich, d -> d.setBound(5, 300));
             oneModification(Diaries::rich, d -> d.setWeight(1, 100));
             oneModification(Diaries::rich, d -> d.setWeight(1, 2));
+            oneModification(Diaries::rich, d -> d.setWeight(5, 0));
             oneModification(Diaries::rich, d -> d.addSession(0));
             oneModification(Diaries::rich, d -> d.addPart(1, 10, 500));
             oneModification(Diaries::rich, d -> d.clearParts(1));
@@ -496,6 +499,7 @@ final class TermEdges extends Edges {
             oneModification(Diaries::rich, d -> d.moveSession(1, 11));
             oneModification(Diaries::rich, d -> d.moveSession(1, 4));
             oneModification(Diaries::rich, d -> d.removeSession(0));
+            oneModification(TrainingDiary::new, TrainingDiary::startPlan);
             oneModification(Diaries::rich, TrainingDiary::startPlan);
             oneModification(TermEdges::planOfToday, TrainingDiary::startPlan);
             oneModification(TermEdges::planOfToday, d -> d.addTarget(6));
@@ -523,6 +527,12 @@ final class TermEdges extends Edges {
             }
             due("7th", STATE, d::undo);
             due("the first one stays", 10, () -> d.weightOf(1));
+            TrainingDiary plans = planOfToday();
+            plans.startPlan();
+            plans.addTarget(6);
+            plans.undo();
+            plans.undo();
+            due("the target of the plan before", 5, () -> plans.targetAt(0));
         });
     }
 
