@@ -56,6 +56,11 @@ final class LineEdges extends Edges {
                 Diaries.session(d, 10, 1, 500);
                 return Diaries.week(d, 3);
             });
+            due("with as many sessions as can be", "5 . . . . 0 .", () -> Diaries.week(Diaries.full(), 0));
+            TrainingDiary removed = withSession(0, 0, 1, 160);
+            Diaries.session(removed, 0, 5, 180);
+            removed.removeSession(1);
+            due("without a session that was removed", "2 - - - - - -", () -> Diaries.week(removed, 0));
             TrainingDiary d = withSession(0, 0);
             Diaries.session(d, 0, 5, 160);
             d.addSession(0);

@@ -113,6 +113,11 @@ final class RecordEdges extends Edges {
             dueWith(() -> withSession(0, 0, 1, 9, 119, 0, 119, 0, 1, 7), record, 1, 9, 239, 9, 240, 16);
             dueWith(() -> withSession(0, 0, 1, 7, 119, 0, 119, 0, 1, 9), record, 1, 9, 239, 9, 240, 16);
             dueWith(() -> withSession(0, 0, 1, 1, 1, 2, 1, 3, 1, 4, 1, 4, 1, 3, 1, 2, 1, 1), record, 1, 4, 2, 8, 3, 11, 7, 19, 8, 20, 9, THERE);
+            dueWith(Diaries::full, record, 1, 420, 240, 50400);
+            TrainingDiary removed = withSession(0, 0, 5, 100);
+            Diaries.session(removed, 0, 5, 300);
+            removed.removeSession(1);
+            due("without a session that was removed", 500, () -> record.of(removed, 5));
         });
     }
 
